@@ -107,6 +107,9 @@ public final class PromisesTest {
             due("new: rows", x.hallOf(hall, 0), 2);
             due("new: columns", x.hallOf(hall, 1), 2);
             due("new: open", x.hallOf(hall, 2), hall == 0 ? 1 : 0);
+            due("new: seated", x.hallOf(hall, 3), 0);
+            due("new: most at once", x.hallOf(hall, 4), 0);
+            due("new: at", x.at(hall, 0, 0), NONE);
         }
         due("new: undo", x.undo(), NOT_POSSIBLE);
         due("new: restore(0)", x.restore(0), NOT_POSSIBLE);
@@ -171,6 +174,8 @@ public final class PromisesTest {
         ExamHalls x = new ExamHalls();
         due("pupil(1, 0)", x.pupil(1, 0, false), 0);
         due("pupil(63, 100)", x.pupil(63, 100, true), 1);
+        due("its desk", x.sitting(0, 0, 3), 0);
+        due("its room", x.sitting(1, 0, 4), 0);
         due("papers", x.pupilOf(1, 0), 63);
         due("extra", x.pupilOf(1, 1), 100);
         due("reader", x.pupilOf(1, 2), 1);
@@ -354,6 +359,8 @@ public final class PromisesTest {
         ExamHalls y = withPupils("ab");
         y.paper(1, 2, 60);
         due("end at the start", y.pupilOf(0, 3), 0);
+        due("end at the start: a", y.sitting(0, 0, 5), 0);
+        due("end at the start: b", y.sitting(0, 1, 5), 0);
         y.paper(0, 0, 61);
         due("end a minute later", y.pupilOf(0, 3), 1);
         y.paper(0, 4, 30);
@@ -388,6 +395,16 @@ public final class PromisesTest {
         due("paperOf(0, 6)", x.paperOf(0, 6), BAD_VALUE);
         ExamHalls rooms = withPupils("fr");
         due("rooms are no halls", rooms.paperOf(5, 5), 0);
+        ExamHalls first = withPupils("b+50;b");
+        due("last end of the first pupil", first.paperOf(1, 3), 90);
+        first.hall(0, 1, 1);
+        first.open(1, true);
+        due("halls of both", first.paperOf(1, 5), 3);
+        first.leave(1);
+        due("the hall of the first pupil", first.paperOf(1, 5), 1);
+        first.open(0, false);
+        first.open(1, false);
+        due("the first pupil has no place", first.paperOf(1, 4), 1);
     }
 
     // ---- promise 12, and the seating
@@ -409,6 +426,13 @@ public final class PromisesTest {
         x.paper(0, 3, 30);
         due("clashes", x.sitting(0, 0, 5), B);
         due("clashes", x.sitting(0, 1, 5), A);
+        x.change(0, A, 71, false);
+        x.paper(0, 0, 100);
+        due("no hundredth is left over", x.sitting(0, 0, 1), 171);
+        x.paper(0, 0, 31);
+        due("one hundredth is rounded up", x.sitting(0, 0, 1), 54);
+        x.change(0, A, 29, false);
+        due("99 hundredths are rounded up", x.sitting(0, 0, 1), 40);
         due("sitting(2, 6, 9)", x.sitting(2, 6, 9), NO_SUCH);
         due("sitting(-1, 0, 0)", x.sitting(-1, 0, 0), NO_SUCH);
         due("sitting(0, 6, 9)", x.sitting(0, 6, 9), NO_SUCH);
@@ -449,6 +473,19 @@ public final class PromisesTest {
         due("not spread: no place", x.sitting(8, 1, 3), NONE);
         x.open(1, false);
         due("a closed hall", x.sitting(4, 0, 2), NONE);
+        ExamHalls full = withPupils("abcd;abcd;abcd;abcd;abcd;abcd;abcd;abcd");
+        type(full, "abcd;abcd;abcd;abcd;abcd;abcd;abcd;abcd");
+        full.read();
+        full.set(0, 0);
+        for (int hall = 0; hall < 4; hall++) {
+            full.hall(hall, 4, 4);
+            full.open(hall, true);
+        }
+        due("64 sittings at 64 desks", full.count(5), 0);
+        for (int hall = 0; hall < 4; hall++) {
+            due("16 at once", full.hallOf(hall, 4), 16);
+            due("the last desk", full.at(hall, 15, 0), 6 * 15 + hall);
+        }
     }
 
     private static void sittingsAtTheEdgeOfAGap() {
@@ -541,6 +578,12 @@ public final class PromisesTest {
         due("most at once, in the middle", x.hallOf(0, 4), 4);
         x.paper(2, 2, 30);
         due("not at the minute of an end", x.hallOf(0, 4), 3);
+        ExamHalls first = withPupils("a;b");
+        first.paper(1, 4, 60);
+        due("the first sitting of paper a", first.hallOf(0, 4), 1);
+        first.paper(0, 9, 60);
+        first.leave(1);
+        due("the first sitting, alone", first.hallOf(0, 4), 1);
         due("hallOf(-1, 9)", x.hallOf(-1, 9), NO_SUCH);
         due("hallOf(4, 0)", x.hallOf(4, 0), NO_SUCH);
         due("hallOf(0, -1)", x.hallOf(0, -1), BAD_VALUE);
@@ -575,6 +618,11 @@ public final class PromisesTest {
         due("readers at once", x.count(9), 2);
         x.wipe();
         due("pad", x.count(11), 0);
+        ExamHalls first = withPupils("ar;br");
+        first.paper(0, 8, 60);
+        due("the end of paper a is the last", first.count(10), 300);
+        first.paper(1, 7, 90);
+        due("the most readers when a begins", first.count(9), 2);
     }
 
     // ---- promise 15
@@ -666,6 +714,18 @@ public final class PromisesTest {
         due("fewer clashes are better than fewer without a place", z.bestStart(1), 6);
         due("nothing changes", z.paperOf(1, 0), 0);
         due("no change", z.count(12), 6);
+        // The same with the clash behind: the desks are full until a begins, and again from its end on.
+        ExamHalls w = withPupils("ab;c+100;d+100;e+100;f+100");
+        w.set(0, 0);
+        w.set(2, 0);
+        w.hall(0, 1, 2);
+        int[] starts = {12, 12, 0, 0, 13, 13};
+        for (int paper = 0; paper < 6; paper++) {
+            w.paper(paper, starts[paper], paper < 2 ? 30 : 180);
+        }
+        due("all have a place with the clash", w.ifStart(1, 12, 1), 0);
+        due("one without a place ahead of it", w.ifStart(1, 0, 1), 1);
+        due("the first one without a clash", w.bestStart(1), 0);
         // The sittings of a and c fill the day: b clashes with one of them at least, and d's desk is free from 90.
         ExamHalls all = withPupils("abc+100;d");
         all.hall(0, 1, 2);
