@@ -3,17 +3,22 @@ final class Due {
     private static final int MOST_SHOWN = 40;
     private static int looked = 0;
     private static int wrong = 0;
+    private static int sentences = 0;
+    private static String sentence = "";
 
     private Due() {
+    }
+
+    /** The sentence of the document that the next answers hold to: it stands ahead of what is wrong in them. */
+    static void sentence(String words) {
+        sentences++;
+        sentence = "[" + words + "] ";
     }
 
     static void is(String call, long got, long want) {
         looked++;
         if (got != want) {
-            wrong++;
-            if (wrong <= MOST_SHOWN) {
-                System.out.println(call + " answered " + got + ", due is " + want);
-            }
+            tell(call + " answered " + got + ", due is " + want);
         }
     }
 
@@ -21,8 +26,33 @@ final class Due {
         is(what, holds ? 1 : 0, 1);
     }
 
+    /** Two looks at an object, each of the form "call=answer call=answer ..". */
+    static void isSame(String what, String got, String want) {
+        looked++;
+        if (!got.equals(want)) {
+            tell(what + ": " + firstDifference(got.split(" "), want.split(" ")));
+        }
+    }
+
+    private static String firstDifference(String[] got, String[] want) {
+        for (int i = 0; i < got.length && i < want.length; i++) {
+            if (!got[i].equals(want[i])) {
+                return got[i] + ", due is " + want[i];
+            }
+        }
+        return got.length + " answers, due are " + want.length;
+    }
+
+    private static void tell(String words) {
+        wrong++;
+        if (wrong <= MOST_SHOWN) {
+            System.out.println(sentence + words);
+        }
+    }
+
     static void end() {
-        System.out.println(looked + " answers, " + wrong + " not as due");
+        String ofSentences = sentences == 0 ? "" : sentences + " sentences, ";
+        System.out.println(ofSentences + looked + " answers, " + wrong + " not as due");
         if (wrong != 0 || looked == 0) {
             System.exit(1);
         }
