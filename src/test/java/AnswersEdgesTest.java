@@ -24,6 +24,7 @@ public final class AnswersEdgesTest {
         sizeOfAHall();
         seatedInAHall();
         mostDesksTaken();
+        mostDesksTakenWithEachPaper();
         mostDesksTakenNotTogether();
         countsOfNobody();
         countsOfTheMost();
@@ -160,6 +161,11 @@ public final class AnswersEdgesTest {
         Due.is("without a place", x.paperOf(1, 3), 750);
         x.paper(1, 0, 30);
         Due.is("the earliest of all", x.paperOf(1, 3), 30);
+        x.pupil(B, 10, true);
+        Due.is("one with a reader", x.paperOf(1, 3), 33);
+        x.set(1, 0);
+        Due.is("one with a reader, without a room", x.paperOf(1, 3), 33);
+        x.leave(1);
         x.leave(0);
         Due.is("NONE without one", x.paperOf(1, 3), NONE);
     }
@@ -200,6 +206,17 @@ public final class AnswersEdgesTest {
         y.leave(6);
         Due.is("three of them", y.paperOf(5, 5), 7);
         Due.is("readers sit in no hall", Schools.withPupils("fr").paperOf(5, 5), 0);
+        ExamHalls one = Schools.withPupils("f;f;f;f");
+        one.hall(0, 1, 1);
+        one.open(3, true);
+        Due.is("the first one alone in the hall 0", one.paperOf(5, 5), 9);
+        one.hall(0, 1, 4);
+        one.hall(3, 1, 1);
+        Due.is("the last one without a place", one.paperOf(5, 5), 9);
+        one.leave(0);
+        Due.is("the last one alone in the hall 3", one.paperOf(5, 5), 9);
+        one.leave(0);
+        Due.is("both in the hall 0", one.paperOf(5, 5), 1);
     }
 
     private static void paperOfErrors() {
@@ -231,7 +248,8 @@ public final class AnswersEdgesTest {
     }
 
     private static void placeOfASitting() {
-        Due.sentence("12: 2 its hall (NONE without a desk), 3 its desk (NONE likewise), 4 its room (NONE without one)");
+        Due.sentence("12: 2 its hall (NONE without a desk), 3 its desk (NONE likewise), 4 its room (NONE without"
+                + " one)");
         ExamHalls x = Schools.withPupils(16, A, 0, false);
         x.hall(0, 1, 1);
         x.hall(3, 4, 4);
@@ -274,7 +292,8 @@ public final class AnswersEdgesTest {
     }
 
     private static void errorsOfASitting() {
-        Due.sentence("12: NO_SUCH if there is no such pupil or paper; BAD_VALUE; NOT_POSSIBLE if the pupil does not sit it");
+        Due.sentence("12: NO_SUCH if there is no such pupil or paper; BAD_VALUE; NOT_POSSIBLE if the pupil does not sit"
+                + " it");
         ExamHalls x = Schools.withPupils("ac;f");
         for (int what = 0; what <= 5; what++) {
             for (int paper = 0; paper < 6; paper++) {
@@ -364,6 +383,38 @@ public final class AnswersEdgesTest {
         Due.is("one at the end of the day", y.hallOf(0, 4), 1);
     }
 
+    private static void mostDesksTakenWithEachPaper() {
+        Due.sentence("13: 4 the most desks at any minute (also if it is one at which the first or the last paper"
+                + " begins)");
+        for (int paper = 0; paper < 6; paper++) {
+            ExamHalls x = Schools.withPupils("abcdef;abcdef");
+            x.set(0, 0);
+            for (int other = 0; other < 6; other++) {
+                x.paper(other, other == paper ? 1 : 3 * other + 2, 30);
+            }
+            // One sits this paper alone, the other one all others: at most two desks, only when they overlap.
+            x.change(0, 63 - (1 << paper), 0, false);
+            x.change(1, 1 << paper, 0, false);
+            Due.is("one at a time", x.hallOf(0, 4), 1);
+            int next = paper == 0 ? 1 : 0;
+            x.paper(paper, 3 * next + 2, 60);
+            Due.is("two when " + paper + " and " + next + " begin", x.hallOf(0, 4), 2);
+            x.change(1, 1 << paper, 0, true);
+            Due.is("one with a reader", x.count(9), 1);
+            x.change(0, 63 - (1 << paper), 0, true);
+            Due.is("two with a reader", x.count(9), 2);
+            x.paper(paper, 19, 180);
+            Due.is("one after the other", x.count(9), 1);
+            x.paper(next, 18, 31);
+            Due.is("two when " + paper + " begins", x.count(9), 2);
+            x.change(0, 63 - (1 << paper), 0, false);
+            x.change(1, 1 << paper, 0, false);
+            Due.is("two when " + paper + " begins", x.hallOf(0, 4), 2);
+            x.paper(next, 18, 30);
+            Due.is("one after the other", x.hallOf(0, 4), 1);
+        }
+    }
+
     private static void mostDesksTakenNotTogether() {
         Due.sentence("13: at any minute (one that ends at a minute is not there any more)");
         ExamHalls x = Schools.withPupils("a;b;b;c");
@@ -401,7 +452,8 @@ public final class AnswersEdgesTest {
     }
 
     private static void countsOfTheMost() {
-        Due.sentence("14: 3 pupils, 4 sittings, 5 those that have no place, 6 pairs of sittings that clash, at their most");
+        Due.sentence("14: 3 pupils, 4 sittings, 5 those that have no place, 6 pairs of sittings that clash, at their"
+                + " most");
         ExamHalls x = crowd(false);
         x.set(1, 6);
         x.set(2, 60);
@@ -599,7 +651,8 @@ public final class AnswersEdgesTest {
     }
 
     private static void atErrors() {
-        Due.sentence("15: NO_SUCH if there is no such hall or desk; BAD_VALUE if minute is below 0; NONE if nobody does");
+        Due.sentence("15: NO_SUCH if there is no such hall or desk; BAD_VALUE if minute is below 0; NONE if nobody"
+                + " does");
         ExamHalls x = Schools.withPupils("a");
         int[][] sizes = {{1, 1}, {1, 4}, {4, 3}, {4, 4}};
         for (int hall = 0; hall < 4; hall++) {

@@ -27,6 +27,7 @@ public final class ChangesEdgesTest {
         openReturnsThoseWithoutAPlace();
         openAndClosedAlready();
         eachIsAChange();
+        eachSeatsAllAnew();
         Due.end();
     }
 
@@ -414,5 +415,48 @@ public final class ChangesEdgesTest {
             Due.is("undo of change " + kind, x.undo(), 1);
             Due.isSame("all as before change " + kind, Schools.shortView(x), before);
         }
+    }
+
+    /** The first look after each change is at where somebody sits. */
+    private static void eachSeatsAllAnew() {
+        Due.sentence("All sittings are seated one after the other (anew with each change)");
+        ExamHalls x = new ExamHalls();
+        x.pupil(A, 0, false);
+        Due.is("pupil", x.sitting(0, 0, 3), 0);
+        x.pupil(A, 0, false);
+        Due.is("pupil", x.at(0, 3, 0), 6);
+        x.put(Schools.word("ar;b"));
+        x.read();
+        Due.is("read", x.sitting(2, 0, 4), 0);
+        Due.is("read", x.at(0, 1, 0), 19);
+        x.change(0, A, 0, true);
+        Due.is("change", x.sitting(0, 0, 4), 0);
+        Due.is("change: the next one has its desk", x.at(0, 0, 0), 6);
+        x.leave(0);
+        Due.is("leave: the one behind it", x.at(0, 0, 0), 0);
+        Due.is("leave: the room", x.sitting(1, 0, 4), 0);
+        x.hall(0, 1, 1);
+        Due.is("hall: b", x.sitting(2, 1, 2), NONE);
+        x.open(2, true);
+        Due.is("open: b", x.sitting(2, 1, 2), 2);
+        x.open(0, false);
+        Due.is("close: a", x.sitting(0, 0, 2), 2);
+        x.paper(0, 19, 60);
+        Due.is("paper: b first", x.at(2, 0, 0), 13);
+        x.set(1, 0);
+        Due.is("set ROOMS", x.sitting(1, 0, 4), NONE);
+        x.undo();
+        Due.is("undo", x.sitting(1, 0, 4), 0);
+        x.save(0);
+        x.pupil(A, 0, false);
+        Due.is("pupil", x.at(2, 3, 570), 18);
+        x.set(0, 0);
+        Due.is("set SPREAD", x.at(2, 1, 570), 18);
+        x.restore(0);
+        Due.is("restore", x.at(2, 1, 570), NONE);
+        x.paper(1, 17, 60);
+        Due.is("paper: a at the desk of b", x.sitting(0, 0, 3), 1);
+        x.set(2, 0);
+        Due.is("set GAP", x.sitting(0, 0, 3), 0);
     }
 }

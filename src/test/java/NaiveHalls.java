@@ -365,7 +365,8 @@ final class NaiveHalls {
                 int most = 0;
                 for (int minute = 0; minute < 1000; minute++) {
                     int m = minute;
-                    most = Math.max(most, (int) own.stream().filter(s -> s.isAt(m)).map(s -> s.desk).distinct().count());
+                    int taken = (int) own.stream().filter(s -> s.isAt(m)).map(s -> s.desk).distinct().count();
+                    most = Math.max(most, taken);
                 }
                 return most;
             default:

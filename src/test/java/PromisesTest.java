@@ -45,28 +45,6 @@ public final class PromisesTest {
         Due.is(call, got, want);
     }
 
-    /** At most 8 characters as put() takes them. */
-    private static long word(String text) {
-        long characters = 0;
-        for (int i = 0; i < text.length(); i++) {
-            characters = characters << 8 | text.charAt(i);
-        }
-        return characters;
-    }
-
-    private static void type(ExamHalls x, String text) {
-        for (int i = 0; i < text.length(); i += 8) {
-            x.put(word(text.substring(i, Math.min(text.length(), i + 8))));
-        }
-    }
-
-    private static ExamHalls withPupils(String text) {
-        ExamHalls x = new ExamHalls();
-        type(x, text);
-        due("read of " + text, x.read(), text.split(";").length);
-        return x;
-    }
-
     /** Everything that can be looked at, but the pad and the history, as one number. */
     private static long picture(ExamHalls x) {
         long sum = 17;
@@ -116,7 +94,7 @@ public final class PromisesTest {
         due("new: restore(1)", x.restore(1), NOT_POSSIBLE);
         ExamHalls other = new ExamHalls();
         other.pupil(A, 0, false);
-        other.put(word("a"));
+        other.put(Schools.word("a"));
         due("objects share nothing: pupils", x.count(3), 0);
         due("objects share nothing: pad", x.count(11), 0);
     }
@@ -199,7 +177,7 @@ public final class PromisesTest {
     private static void read() {
         ExamHalls x = new ExamHalls();
         due("read of nothing", x.read(), BAD_TEXT);
-        type(x, "abf+25;cr;d+100r;e");
+        Schools.type(x, "abf+25;cr;d+100r;e");
         due("read", x.read(), 4);
         due("pad", x.count(11), 0);
         int[][] want = {{A + B + F, 25, 0}, {C, 0, 1}, {D, 100, 1}, {E, 0, 0}};
@@ -209,13 +187,13 @@ public final class PromisesTest {
             }
         }
         due("one change", x.count(12), 1);
-        type(x, "f+1");
+        Schools.type(x, "f+1");
         due("read one more", x.read(), 5);
         due("extra of 1", x.pupilOf(4, 1), 1);
-        type(x, "a;b;");
+        Schools.type(x, "a;b;");
         due("read of a text that ends too early", x.read(), BAD_TEXT);
         due("pad is kept", x.count(11), 4);
-        type(x, "c;a;b;c;a;b;c;a;b;c");
+        Schools.type(x, "c;a;b;c;a;b;c;a;b;c");
         due("read of 12", x.read(), TOO_MANY);
         due("pad is kept", x.count(11), 23);
         due("pupils are kept", x.count(3), 5);
@@ -223,7 +201,7 @@ public final class PromisesTest {
         x.leave(0);
         due("read of 12 to 4", x.read(), 16);
         due("the last one", x.pupilOf(15, 0), C);
-        type(x, "a");
+        Schools.type(x, "a");
         due("read of a 17th", x.read(), TOO_MANY);
         x.wipe();
         due("bad text ahead of too many", x.read(), BAD_TEXT);
@@ -231,17 +209,17 @@ public final class PromisesTest {
         due("pupils are gone", x.count(3), 4);
         due("the pad stays", x.count(11), 0);
         ExamHalls many = new ExamHalls();
-        type(many, "a;a;a;a;a;a;a;a;a;a;a;a;a;a;a;a;a;a;a;a;a;a;a;a;a;a;a;a;a;a");
+        Schools.type(many, "a;a;a;a;a;a;a;a;a;a;a;a;a;a;a;a;a;a;a;a;a;a;a;a;a;a;a;a;a;a");
         due("30 pupils: no fault", many.fault(), NONE);
         due("30 pupils", many.read(), TOO_MANY);
         due("no pupils", many.count(3), 0);
-        due("seats after read", withPupils("a").sitting(0, 0, 3), 0);
+        due("seats after read", Schools.withPupils("a").sitting(0, 0, 3), 0);
     }
 
     // ---- promise 6
 
     private static void change() {
-        ExamHalls x = withPupils("abc;d");
+        ExamHalls x = Schools.withPupils("abc;d");
         due("change to 3 pairs", x.change(0, A + B + C, 0, false), 3);
         due("change to none", x.change(0, A, 50, true), 0);
         due("papers", x.pupilOf(0, 0), A);
@@ -264,7 +242,7 @@ public final class PromisesTest {
     // ---- promise 7
 
     private static void leave() {
-        ExamHalls x = withPupils("a+1;bc+2r;d+3;ef+4r");
+        ExamHalls x = Schools.withPupils("a+1;bc+2r;d+3;ef+4r");
         due("leave(1)", x.leave(1), B + C);
         due("pupils", x.count(3), 3);
         due("the one behind", x.pupilOf(1, 0), D);
@@ -284,7 +262,7 @@ public final class PromisesTest {
         due("desk is free", x.at(0, 0, 0), NONE);
         due("undo", x.undo(), 4);
         due("back again", x.pupilOf(0, 0), D);
-        ExamHalls full = withPupils("a;a;a;a;a;a;a;a;a;a;a;a;a;a;a;b+7");
+        ExamHalls full = Schools.withPupils("a;a;a;a;a;a;a;a;a;a;a;a;a;a;a;b+7");
         due("leave of 16", full.leave(0), A);
         due("last of 15", full.pupilOf(14, 1), 7);
         due("a place for one", full.pupil(F, 0, false), 15);
@@ -315,7 +293,7 @@ public final class PromisesTest {
     // ---- promise 9
 
     private static void open() {
-        ExamHalls x = withPupils("a;a;a;b;b;c");
+        ExamHalls x = Schools.withPupils("a;a;a;b;b;c");
         due("no place", x.count(5), 2);
         due("open(3, true)", x.open(3, true), 0);
         due("halls", x.count(7), 9);
@@ -334,7 +312,7 @@ public final class PromisesTest {
     // ---- promise 10
 
     private static void pupilOf() {
-        ExamHalls x = withPupils("abc+33;ab+7r;ab;ab;ab");
+        ExamHalls x = Schools.withPupils("abc+33;ab+7r;ab;ab;ab");
         x.paper(2, 2, 31);
         due("papers", x.pupilOf(0, 0), A + B + C);
         due("extra", x.pupilOf(0, 1), 33);
@@ -356,7 +334,7 @@ public final class PromisesTest {
         due("pupilOf(0, -1)", x.pupilOf(0, -1), BAD_VALUE);
         due("pupilOf(0, 6)", x.pupilOf(0, 6), BAD_VALUE);
         // One that ends just when the other one begins does not clash, whatever the gap.
-        ExamHalls y = withPupils("ab");
+        ExamHalls y = Schools.withPupils("ab");
         y.paper(1, 2, 60);
         due("end at the start", y.pupilOf(0, 3), 0);
         due("end at the start: a", y.sitting(0, 0, 5), 0);
@@ -372,7 +350,7 @@ public final class PromisesTest {
     // ---- promise 11
 
     private static void paperOf() {
-        ExamHalls x = withPupils("a;a+100;b;a+10r;a;ar");
+        ExamHalls x = Schools.withPupils("a;a+100;b;a+10r;a;ar");
         x.paper(0, 5, 90);
         due("start", x.paperOf(0, 0), 5);
         due("minutes", x.paperOf(0, 1), 90);
@@ -393,9 +371,9 @@ public final class PromisesTest {
         due("paperOf(6, 0)", x.paperOf(6, 0), NO_SUCH);
         due("paperOf(0, -1)", x.paperOf(0, -1), BAD_VALUE);
         due("paperOf(0, 6)", x.paperOf(0, 6), BAD_VALUE);
-        ExamHalls rooms = withPupils("fr");
+        ExamHalls rooms = Schools.withPupils("fr");
         due("rooms are no halls", rooms.paperOf(5, 5), 0);
-        ExamHalls first = withPupils("b+50;b");
+        ExamHalls first = Schools.withPupils("b+50;b");
         due("last end of the first pupil", first.paperOf(1, 3), 90);
         first.hall(0, 1, 1);
         first.open(1, true);
@@ -410,7 +388,7 @@ public final class PromisesTest {
     // ---- promise 12, and the seating
 
     private static void sitting() {
-        ExamHalls x = withPupils("ab+100;ar");
+        ExamHalls x = Schools.withPupils("ab+100;ar");
         x.paper(0, 19, 180);
         due("begin", x.sitting(0, 0, 0), 570);
         due("end", x.sitting(0, 0, 1), 930);
@@ -444,7 +422,7 @@ public final class PromisesTest {
     }
 
     private static void sittingsAtDesks() {
-        ExamHalls x = withPupils("a;a;a;a;a;a;a;a;b;b");
+        ExamHalls x = Schools.withPupils("a;a;a;a;a;a;a;a;b;b");
         x.hall(0, 3, 3);
         int[] desks = {0, 2, 4, 6, 8, NONE, NONE, NONE};
         for (int pupil = 0; pupil < 8; pupil++) {
@@ -473,8 +451,8 @@ public final class PromisesTest {
         due("not spread: no place", x.sitting(8, 1, 3), NONE);
         x.open(1, false);
         due("a closed hall", x.sitting(4, 0, 2), NONE);
-        ExamHalls full = withPupils("abcd;abcd;abcd;abcd;abcd;abcd;abcd;abcd");
-        type(full, "abcd;abcd;abcd;abcd;abcd;abcd;abcd;abcd");
+        ExamHalls full = Schools.withPupils("abcd;abcd;abcd;abcd;abcd;abcd;abcd;abcd");
+        Schools.type(full, "abcd;abcd;abcd;abcd;abcd;abcd;abcd;abcd");
         full.read();
         full.set(0, 0);
         for (int hall = 0; hall < 4; hall++) {
@@ -489,7 +467,7 @@ public final class PromisesTest {
     }
 
     private static void sittingsAtTheEdgeOfAGap() {
-        ExamHalls x = withPupils("a;b;c");
+        ExamHalls x = Schools.withPupils("a;b;c");
         x.hall(0, 1, 1);
         x.paper(1, 2, 60);
         x.paper(2, 4, 60);
@@ -506,7 +484,7 @@ public final class PromisesTest {
         x.set(2, 60);
         due("an empty desk at minute 0 with the greatest gap", x.sitting(0, 0, 3), 0);
         // The same paper beside, but at another time, is beside nobody: only the same start is the same paper.
-        ExamHalls y = withPupils("ab;b;a");
+        ExamHalls y = Schools.withPupils("ab;b;a");
         y.hall(0, 1, 2);
         y.paper(1, 4, 60);
         due("a", y.sitting(0, 0, 3), 0);
@@ -516,7 +494,7 @@ public final class PromisesTest {
     }
 
     private static void sittingsInRooms() {
-        ExamHalls x = withPupils("ar;a+50r;br;b;cr");
+        ExamHalls x = Schools.withPupils("ar;a+50r;br;b;cr");
         x.set(1, 2);
         x.paper(1, 2, 60);
         x.paper(2, 3, 30);
@@ -541,7 +519,7 @@ public final class PromisesTest {
     }
 
     private static void sittingsInTheirOrder() {
-        ExamHalls x = withPupils("b;c;a;a");
+        ExamHalls x = Schools.withPupils("b;c;a;a");
         x.set(0, 0);
         x.hall(0, 1, 3);
         due("papers ahead of pupils: a", x.sitting(2, 0, 3), 0);
@@ -553,7 +531,7 @@ public final class PromisesTest {
         due("starts ahead of papers: c", x.sitting(1, 2, 3), 1);
         due("starts ahead of papers: a", x.sitting(2, 0, 3), 2);
         due("starts ahead of papers: a", x.sitting(3, 0, 3), NONE);
-        ExamHalls y = withPupils("abc");
+        ExamHalls y = Schools.withPupils("abc");
         due("sittings that clash are seated each: a", y.sitting(0, 0, 3), 0);
         due("sittings that clash are seated each: b", y.sitting(0, 1, 3), 1);
         due("sittings that clash are seated each: c", y.sitting(0, 2, 3), 2);
@@ -562,7 +540,7 @@ public final class PromisesTest {
     // ---- promise 13
 
     private static void hallOf() {
-        ExamHalls x = withPupils("a;b;ac;d+100;dr");
+        ExamHalls x = Schools.withPupils("a;b;ac;d+100;dr");
         x.hall(0, 2, 3);
         x.paper(2, 3, 30);
         x.paper(3, 4, 30);
@@ -578,7 +556,7 @@ public final class PromisesTest {
         due("most at once, in the middle", x.hallOf(0, 4), 4);
         x.paper(2, 2, 30);
         due("not at the minute of an end", x.hallOf(0, 4), 3);
-        ExamHalls first = withPupils("a;b");
+        ExamHalls first = Schools.withPupils("a;b");
         first.paper(1, 4, 60);
         due("the first sitting of paper a", first.hallOf(0, 4), 1);
         first.paper(0, 9, 60);
@@ -593,13 +571,13 @@ public final class PromisesTest {
     // ---- promise 14
 
     private static void count() {
-        ExamHalls x = withPupils("abr;abr;bc+50;a;a;a");
+        ExamHalls x = Schools.withPupils("abr;abr;bc+50;a;a;a");
         x.paper(1, 1, 60);
         x.paper(2, 3, 45);
         x.set(0, 1);
         x.set(1, 0);
         x.set(2, 25);
-        type(x, "ab;c");
+        Schools.type(x, "ab;c");
         int[] counts = {1, 0, 25, 6, 9, 5, 3, 1, 4, 4, 158, 4, 6};
         for (int what = 0; what < counts.length; what++) {
             due("count(" + what + ")", x.count(what), counts[what]);
@@ -618,7 +596,7 @@ public final class PromisesTest {
         due("readers at once", x.count(9), 2);
         x.wipe();
         due("pad", x.count(11), 0);
-        ExamHalls first = withPupils("ar;br");
+        ExamHalls first = Schools.withPupils("ar;br");
         first.paper(0, 8, 60);
         due("the end of paper a is the last", first.count(10), 300);
         first.paper(1, 7, 90);
@@ -628,7 +606,7 @@ public final class PromisesTest {
     // ---- promise 15
 
     private static void at() {
-        ExamHalls x = withPupils("c;cr;bf");
+        ExamHalls x = Schools.withPupils("c;cr;bf");
         x.paper(2, 1, 60);
         x.paper(1, 4, 30);
         x.paper(5, 0, 30);
@@ -656,7 +634,7 @@ public final class PromisesTest {
     // ---- promise 16
 
     private static void ifStart() {
-        ExamHalls x = withPupils("ab;ab+50;b;b");
+        ExamHalls x = Schools.withPupils("ab;ab+50;b;b");
         long before = picture(x);
         due("clashes now", x.ifStart(0, 0, 0), 2);
         due("no place now", x.ifStart(0, 0, 1), 2);
@@ -684,7 +662,7 @@ public final class PromisesTest {
     // ---- promise 17
 
     private static void bestStart() {
-        ExamHalls x = withPupils("ab");
+        ExamHalls x = Schools.withPupils("ab");
         due("the first one without a clash", x.bestStart(0), 2);
         due("of papers without pupils the least", x.bestStart(5), 0);
         x.paper(1, 10, 60);
@@ -692,7 +670,7 @@ public final class PromisesTest {
         x.paper(1, 0, 180);
         due("behind b", x.bestStart(0), 6);
         // Clashes come first, places next: at 60 nobody clashes, but the gap is missing until 90.
-        ExamHalls y = withPupils("ab;b");
+        ExamHalls y = Schools.withPupils("ab;b");
         y.hall(0, 1, 2);
         y.set(0, 0);
         y.paper(1, 0, 60);
@@ -700,7 +678,7 @@ public final class PromisesTest {
         due("no place at 60", y.ifStart(0, 2, 1), 1);
         due("a place at 90", y.bestStart(0), 3);
         // Where b clashes, at 0, all have a place; wherever it does not, somebody has none.
-        ExamHalls z = withPupils("ab;c+100;d+100");
+        ExamHalls z = Schools.withPupils("ab;c+100;d+100");
         z.hall(0, 1, 2);
         z.set(0, 0);
         z.set(2, 60);
@@ -715,7 +693,7 @@ public final class PromisesTest {
         due("nothing changes", z.paperOf(1, 0), 0);
         due("no change", z.count(12), 6);
         // The same with the clash behind: the desks are full until a begins, and again from its end on.
-        ExamHalls w = withPupils("ab;c+100;d+100;e+100;f+100");
+        ExamHalls w = Schools.withPupils("ab;c+100;d+100;e+100;f+100");
         w.set(0, 0);
         w.set(2, 0);
         w.hall(0, 1, 2);
@@ -727,7 +705,7 @@ public final class PromisesTest {
         due("one without a place ahead of it", w.ifStart(1, 0, 1), 1);
         due("the first one without a clash", w.bestStart(1), 0);
         // The sittings of a and c fill the day: b clashes with one of them at least, and d's desk is free from 90.
-        ExamHalls all = withPupils("abc+100;d");
+        ExamHalls all = Schools.withPupils("abc+100;d");
         all.hall(0, 1, 2);
         all.set(0, 0);
         all.paper(0, 0, 180);
@@ -738,7 +716,7 @@ public final class PromisesTest {
         due("the fewest without a place", all.bestStart(1), 3);
         due("bestStart(-1)", all.bestStart(-1), NO_SUCH);
         due("bestStart(6)", all.bestStart(6), NO_SUCH);
-        ExamHalls closed = withPupils("ab");
+        ExamHalls closed = Schools.withPupils("ab");
         closed.open(0, false);
         due("nobody has a place: the least one without a clash", closed.bestStart(0), 2);
     }
@@ -746,7 +724,7 @@ public final class PromisesTest {
     // ---- promise 18
 
     private static void bestHalls() {
-        ExamHalls x = withPupils("a;a;a");
+        ExamHalls x = Schools.withPupils("a;a;a");
         due("two halls of 2 x 2", x.bestHalls(0), 3);
         due("all have a place", x.bestHalls(1), 0);
         x.hall(1, 4, 4);
@@ -762,10 +740,10 @@ public final class PromisesTest {
         due("halls are as they were", x.count(7), 1);
         due("bestHalls(-1)", x.bestHalls(-1), BAD_VALUE);
         due("bestHalls(2)", x.bestHalls(2), BAD_VALUE);
-        ExamHalls y = withPupils("ar;ar;a");
+        ExamHalls y = Schools.withPupils("ar;ar;a");
         due("readers need no hall", y.bestHalls(0), 1);
         due("but a room", y.bestHalls(1), 1);
-        ExamHalls z = withPupils("a;a;a;a;a;a;a;a;a;a;a;a");
+        ExamHalls z = Schools.withPupils("a;a;a;a;a;a;a;a;a;a;a;a");
         due("all halls", z.bestHalls(0), 15);
         due("8 of 12", z.bestHalls(1), 4);
         due("no pupil, no hall", new ExamHalls().bestHalls(0), 0);
@@ -775,8 +753,8 @@ public final class PromisesTest {
     // ---- promise 19
 
     private static void leastRooms() {
-        due("no readers", withPupils("a;a;a").leastRooms(), 0);
-        ExamHalls x = withPupils("ar;ar;br;a;a;a");
+        due("no readers", Schools.withPupils("a;a;a").leastRooms(), 0);
+        ExamHalls x = Schools.withPupils("ar;ar;br;a;a;a");
         due("3 rooms", x.leastRooms(), 3);
         due("the setting stays", x.count(1), 1);
         x.paper(1, 2, 60);
@@ -784,9 +762,9 @@ public final class PromisesTest {
         x.set(2, 0);
         due("2 rooms", x.leastRooms(), 2);
         due("others without a place do not matter", x.count(5) > 0 ? 1 : 0, 1);
-        due("6 rooms", withPupils("ar;ar;ar;ar;ar;ar").leastRooms(), 6);
-        due("not even 6", withPupils("ar;ar;ar;ar;ar;ar;ar").leastRooms(), NONE);
-        ExamHalls high = withPupils("a");
+        due("6 rooms", Schools.withPupils("ar;ar;ar;ar;ar;ar").leastRooms(), 6);
+        due("not even 6", Schools.withPupils("ar;ar;ar;ar;ar;ar;ar").leastRooms(), NONE);
+        ExamHalls high = Schools.withPupils("a");
         high.set(1, 6);
         due("0 even if there are more", high.leastRooms(), 0);
     }
@@ -796,35 +774,35 @@ public final class PromisesTest {
     private static void put() {
         ExamHalls x = new ExamHalls();
         due("put nothing", x.put(0), BAD_VALUE);
-        due("put 8", x.put(word("abcdefgh")), 8);
-        due("put 1", x.put(word("+")), 9);
+        due("put 8", x.put(Schools.word("abcdefgh")), 8);
+        due("put 1", x.put(Schools.word("+")), 9);
         due("put 32", x.put(32), BAD_VALUE);
         due("put 33", x.put(33), 10);
         due("put 126", x.put(126), 11);
         due("put 127", x.put(127), BAD_VALUE);
         due("put 128", x.put(128), BAD_VALUE);
         due("put 255", x.put(255), BAD_VALUE);
-        due("put a 0 below", x.put(word("a") << 8), BAD_VALUE);
-        due("put a 0 between", x.put(word("a") << 16 | word("a")), BAD_VALUE);
-        due("put a 0 and a bit above", x.put(1L << 62 | word("a")), BAD_VALUE);
-        due("put a 0 and the highest bit", x.put(Long.MIN_VALUE | word("a")), BAD_VALUE);
+        due("put a 0 below", x.put(Schools.word("a") << 8), BAD_VALUE);
+        due("put a 0 between", x.put(Schools.word("a") << 16 | Schools.word("a")), BAD_VALUE);
+        due("put a 0 and a bit above", x.put(1L << 62 | Schools.word("a")), BAD_VALUE);
+        due("put a 0 and the highest bit", x.put(Long.MIN_VALUE | Schools.word("a")), BAD_VALUE);
         due("put -1", x.put(-1), BAD_VALUE);
         due("put the least", x.put(Long.MIN_VALUE), BAD_VALUE);
-        due("put a bad first one", x.put(0x80L << 56 | word("aaaaaaa")), BAD_VALUE);
-        due("put a bad one in the middle", x.put(word("aa a")), BAD_VALUE);
+        due("put a bad first one", x.put(0x80L << 56 | Schools.word("aaaaaaa")), BAD_VALUE);
+        due("put a bad one in the middle", x.put(Schools.word("aa a")), BAD_VALUE);
         due("the pad is kept", x.count(11), 11);
         for (int length = 19; length <= 59; length += 8) {
-            due("put", x.put(word("12345678")), length);
+            due("put", x.put(Schools.word("12345678")), length);
         }
-        due("put 2 to 59", x.put(word("ab")), TOO_MANY);
-        due("bad ahead of too many", x.put(word("a b")), BAD_VALUE);
-        due("put 1 to 59", x.put(word("a")), 60);
-        due("put 1 to 60", x.put(word("a")), TOO_MANY);
+        due("put 2 to 59", x.put(Schools.word("ab")), TOO_MANY);
+        due("bad ahead of too many", x.put(Schools.word("a b")), BAD_VALUE);
+        due("put 1 to 59", x.put(Schools.word("a")), 60);
+        due("put 1 to 60", x.put(Schools.word("a")), TOO_MANY);
         due("the pad is full", x.count(11), 60);
         due("no change", x.count(12), 0);
         ExamHalls y = new ExamHalls();
-        y.put(word("a;"));
-        y.put(word("bc"));
+        y.put(Schools.word("a;"));
+        y.put(Schools.word("bc"));
         y.read();
         due("the last character is the lowest", y.pupilOf(1, 0), B + C);
     }
@@ -834,11 +812,11 @@ public final class PromisesTest {
     private static void wipe() {
         ExamHalls x = new ExamHalls();
         due("wipe of nothing", x.wipe(), 0);
-        type(x, "abc;d");
+        Schools.type(x, "abc;d");
         due("wipe", x.wipe(), 5);
         due("pad", x.count(11), 0);
         due("wipe again", x.wipe(), 0);
-        type(x, "f");
+        Schools.type(x, "f");
         due("a new text", x.fault(), NONE);
         due("no change", x.count(12), 0);
     }
@@ -846,8 +824,8 @@ public final class PromisesTest {
     // ---- promise 22
 
     private static void fault() {
-        String[] right = {"a", "f", "abcdef", "af", "a+1", "a+10", "a+99", "a+100", "ar", "a+7r", "a;a", "ab+5r;cr;d+100",
-            "f;a", "ar;b", "a+1;b", "a+100r;a"};
+        String[] right = {"a", "f", "abcdef", "af", "a+1", "a+10", "a+99", "a+100", "ar", "a+7r", "a;a",
+            "ab+5r;cr;d+100", "f;a", "ar;b", "a+1;b", "a+100r;a"};
         for (String text : right) {
             due("fault of " + text, faultOf(text), NONE);
         }
@@ -861,7 +839,7 @@ public final class PromisesTest {
             due("fault of " + row[0], faultOf((String) row[0]), (int) row[1]);
         }
         ExamHalls x = new ExamHalls();
-        type(x, "a;a;a;a;a;a;a;a;a;a;a;a;a;a;a;a;a;a;a;a;a;a;a;a;a;a;a;a;a;a;");
+        Schools.type(x, "a;a;a;a;a;a;a;a;a;a;a;a;a;a;a;a;a;a;a;a;a;a;a;a;a;a;a;a;a;a;");
         due("60 characters that end too early", x.fault(), 60);
         due("nothing changes", x.count(11), 60);
         due("no change", x.count(12), 0);
@@ -869,7 +847,7 @@ public final class PromisesTest {
 
     private static int faultOf(String text) {
         ExamHalls x = new ExamHalls();
-        type(x, text);
+        Schools.type(x, text);
         return x.fault();
     }
 
@@ -882,7 +860,7 @@ public final class PromisesTest {
             x.pupil(A, i, false);
             due("history", x.count(12), Math.min(6, i + 1));
         }
-        x.put(word("abc"));
+        x.put(Schools.word("abc"));
         for (int i = 7; i >= 2; i--) {
             due("undo", x.undo(), i - 2);
             due("pupils", x.count(3), i);
@@ -905,11 +883,11 @@ public final class PromisesTest {
 
     private static void undoOfEachChange() {
         for (int kind = 0; kind < 9; kind++) {
-            ExamHalls x = withPupils("ab+5;cdr;a;a");
+            ExamHalls x = Schools.withPupils("ab+5;cdr;a;a");
             x.save(1);
             x.set(0, 0);
             x.hall(1, 1, 3);
-            x.put(word("f"));
+            x.put(Schools.word("f"));
             long before = picture(x);
             int answer = switch (kind) {
                 case 0 -> x.set(1, 4);
@@ -934,7 +912,7 @@ public final class PromisesTest {
     // ---- promise 24
 
     private static void save() {
-        ExamHalls x = withPupils("a;b;c");
+        ExamHalls x = Schools.withPupils("a;b;c");
         due("save(0)", x.save(0), 3);
         x.leave(0);
         due("save(1)", x.save(1), 2);
@@ -954,7 +932,7 @@ public final class PromisesTest {
     // ---- promise 25
 
     private static void restore() {
-        ExamHalls x = withPupils("a+7r;bc;a;a;a");
+        ExamHalls x = Schools.withPupils("a+7r;bc;a;a;a");
         x.set(0, 0);
         x.set(1, 3);
         x.set(2, 33);
@@ -976,7 +954,7 @@ public final class PromisesTest {
         x.open(0, false);
         x.leave(0);
         x.change(0, F, 1, true);
-        x.put(word("ab"));
+        x.put(Schools.word("ab"));
         long changed = picture(x);
         due("restore(0)", x.restore(0), 5);
         due("all as it was saved", picture(x), saved);
@@ -997,8 +975,8 @@ public final class PromisesTest {
     // ---- conventions
 
     private static void errorsChangeNothing() {
-        ExamHalls x = withPupils("ab;cr;a");
-        x.put(word("ba"));
+        ExamHalls x = Schools.withPupils("ab;cr;a");
+        x.put(Schools.word("ba"));
         long before = picture(x);
         int[] answers = {
             x.set(0, 2), x.paper(0, 20, 60), x.pupil(64, 0, false), x.read(), x.change(0, 64, 0, true), x.leave(3),

@@ -39,7 +39,7 @@ final class Schools {
         return x;
     }
 
-    /** All that can be looked at, with each pupil's sittings, but no what-if: 267 calls at most if each sits one paper. */
+    /** All that can be looked at, but no what-if: 283 calls at most if each pupil sits one paper. */
     static String view(ExamHalls x) {
         StringBuilder all = new StringBuilder();
         for (int what = 0; what <= 12; what++) {

@@ -358,7 +358,8 @@ public final class TermsEdgesTest {
 
     /** Minutes of the first paper, start of the next one, the greatest gap with which it has the same place. */
     private static final int[][] GAPS = {
-        {60, 2, 0}, {59, 2, 1}, {50, 2, 10}, {31, 3, 59}, {30, 3, 60}, {90, 4, 30}, {180, 6, 0}, {179, 6, 1}, {30, 1, 0}};
+        {60, 2, 0}, {59, 2, 1}, {50, 2, 10}, {31, 3, 59}, {30, 3, 60}, {90, 4, 30}, {180, 6, 0}, {179, 6, 1},
+        {30, 1, 0}};
 
     private static void gapsAtADesk() {
         Due.sentence("at least GAP minutes apart: that one ends by its start less GAP (a desk)");
@@ -506,7 +507,8 @@ public final class TermsEdgesTest {
     }
 
     private static void besideOneAnother() {
-        Due.sentence("beside which (in the same row, or in the same column, right next to it) no sitting of the same paper");
+        Due.sentence("beside which (in the same row, or in the same column, right next to it) no sitting of the same"
+                + " paper");
         ExamHalls x = Schools.withPupils("a;a;a");
         x.hall(0, 1, 2);
         Due.is("to the right", x.sitting(1, 0, 3), NONE);
@@ -586,7 +588,8 @@ public final class TermsEdgesTest {
     }
 
     private static void clashes() {
-        Due.sentence("Two sittings of a pupil clash, if neither ends by the start of the other one (GAP does not matter)");
+        Due.sentence("Two sittings of a pupil clash, if neither ends by the start of the other one (GAP does not"
+                + " matter)");
         for (int gap = 0; gap <= 60; gap += 30) {
             ExamHalls x = Schools.withPupils("ab;a;b");
             x.set(2, gap);

@@ -76,7 +76,8 @@ public final class TextsEdgesTest {
     }
 
     private static void everyCodeAtEveryPlace() {
-        Due.sentence("20: BAD_VALUE if a code is not 33 to 126; 8 bits that are 0 mean that there are no more characters");
+        Due.sentence("20: BAD_VALUE if a code is not 33 to 126; 8 bits that are 0 mean that there are no more"
+                + " characters");
         for (int many = 1; many <= 8; many++) {
             for (int place = 0; place < many; place++) {
                 ExamHalls x = null;
@@ -93,7 +94,8 @@ public final class TextsEdgesTest {
     }
 
     private static void everyStrayBit() {
-        Due.sentence("20: everything above them has to be 0, too; BAD_VALUE if a bit above 8 bits that are 0 is not 0");
+        Due.sentence("20: everything above them has to be 0, too; BAD_VALUE if a bit above 8 bits that are 0 is not"
+                + " 0");
         for (int many = 0; many <= 7; many++) {
             ExamHalls x = new ExamHalls();
             long characters = Schools.word("abcdefg".substring(0, many));
@@ -115,8 +117,8 @@ public final class TextsEdgesTest {
     private static void endsOfLong() {
         Due.sentence("20: characters are given as a number (of long, to its ends)");
         ExamHalls x = new ExamHalls();
-        long[] bad = {Long.MIN_VALUE, Long.MAX_VALUE, -1, 0, 1, Integer.MIN_VALUE, Integer.MAX_VALUE, 1L << 32, 1L << 31,
-            0x7E7E7E7E7E7E7E7FL, 0x7F7E7E7E7E7E7E7EL, 0x2121212121212120L, 0x2021212121212121L, Long.MIN_VALUE + 'a',
+        long[] bad = {Long.MIN_VALUE, Long.MAX_VALUE, -1, 0, 1, Integer.MIN_VALUE, Integer.MAX_VALUE, 1L << 32,
+            1L << 31, 0x7E7E7E7E7E7E7E7FL, 0x7F7E7E7E7E7E7E7EL, 0x2121212121212120L, 0x2021212121212121L, Long.MIN_VALUE + 'a',
             0x6161616100000000L, 0x6100000000000061L, 0x6161616161616100L, 0x0061616161610061L, 0xE161616161616161L};
         for (long characters : bad) {
             Due.is("put(" + characters + ")", x.put(characters), BAD_VALUE);
@@ -247,7 +249,8 @@ public final class TextsEdgesTest {
     }
 
     private static void everyNumber() {
-        Due.sentence("the number is the extra time, 1 to 100 without leading zeros (also a digit too great is the fault)");
+        Due.sentence("the number is the extra time, 1 to 100 without leading zeros (also a digit too great is the"
+                + " fault)");
         for (int number = 0; number <= 1009; number++) {
             ExamHalls x = new ExamHalls();
             String text = "a+" + number;
@@ -295,7 +298,8 @@ public final class TextsEdgesTest {
     }
 
     private static void textsThatEndTooEarly() {
-        Due.sentence("if there is none and the text ends too early (also if it is empty), it is the length of the text");
+        Due.sentence("if there is none and the text ends too early (also if it is empty), it is the length of the"
+                + " text");
         ExamHalls x = new ExamHalls();
         Due.is("an empty pad", x.fault(), 0);
         String[] early = {"a;", "a+", "ab+", "a+5;", "a+5r;", "ar;", "a;b;", "a;b+", "abcdef+100r;"};
@@ -308,7 +312,8 @@ public final class TextsEdgesTest {
     }
 
     private static void firstFaultOfSeveral() {
-        Due.sentence("22: the first character that cannot stand at its place when the text is read from left to right");
+        Due.sentence("22: the first character that cannot stand at its place when the text is read from left to"
+                + " right");
         ExamHalls x = new ExamHalls();
         Object[][] rows = {{";;", 0}, {"gg", 0}, {"aa;;", 1}, {"ba;ba", 1}, {"a;ba;", 3}, {"a+0+0", 2}, {"a+101;aa", 4},
             {"arr;;", 2}, {"a;;a", 2}, {"xa;b;c", 0}, {"a;b;c!", 5}, {"a+1;b+r;c+0", 6}, {"r;aa", 0}, {"a;r", 2}};

@@ -84,7 +84,8 @@ public final class WhatIfEdgesTest {
     }
 
     private static void ifStartAsItIs() {
-        Due.sentence("16: Tells what another start of a paper would bring (the start that it has brings what there is)");
+        Due.sentence("16: Tells what another start of a paper would bring (the start that it has brings what there"
+                + " is)");
         ExamHalls x = Schools.withPupils("ab;bc+50;cdr;efr;a;a;a");
         for (int paper = 0; paper < 6; paper++) {
             x.paper(paper, 2 * paper, 45 + 10 * paper);
@@ -190,7 +191,8 @@ public final class WhatIfEdgesTest {
     }
 
     private static void clashesComeAheadOfPlaces() {
-        Due.sentence("17: with the fewest clashes; of several (of these alone) the one with the fewest without a place");
+        Due.sentence("17: with the fewest clashes; of several (of these alone) the one with the fewest without a"
+                + " place");
         // a, c and d, with the gap, take both desks from 180 on: b has one at 0 alone, where it clashes with a.
         ExamHalls x = Schools.withPupils("ab;c+100;d+100");
         x.hall(0, 1, 2);
@@ -236,7 +238,8 @@ public final class WhatIfEdgesTest {
     // ---- promise 18
 
     private static void bestHallsIsEachOfTheSixteen() {
-        Due.sentence("18: Finds the set of open halls with which the fewest sittings have no place; 0 the set, 1 how many");
+        Due.sentence("18: Finds the set of open halls with which the fewest sittings have no place; 0 the set, 1 how"
+                + " many");
         for (int set = 0; set < 16; set++) {
             ExamHalls x = Schools.withPupils(Integer.bitCount(set), A, 0, false);
             for (int hall = 0; hall < 4; hall++) {
