@@ -1,12 +1,30 @@
 /** Counts the answers that are not the ones that are due, and ends a test. */
 final class Due {
     private static final int MOST_SHOWN = 40;
+    private static final int MOST_SECONDS = 300;
     private static int looked = 0;
     private static int wrong = 0;
     private static int sentences = 0;
-    private static String sentence = "";
+    private static volatile String sentence = "";
+
+    // A call that does not end must fail the test, too.
+    static {
+        Thread watch = new Thread(Due::endLate);
+        watch.setDaemon(true);
+        watch.start();
+    }
 
     private Due() {
+    }
+
+    private static void endLate() {
+        try {
+            Thread.sleep(1000L * MOST_SECONDS);
+        } catch (InterruptedException e) {
+            return;
+        }
+        System.out.println(sentence + "no end after " + MOST_SECONDS + " seconds");
+        Runtime.getRuntime().halt(1);
     }
 
     /** The sentence of the document that the next answers hold to: it stands ahead of what is wrong in them. */

@@ -118,7 +118,8 @@ public final class TextsEdgesTest {
         Due.sentence("20: characters are given as a number (of long, to its ends)");
         ExamHalls x = new ExamHalls();
         long[] bad = {Long.MIN_VALUE, Long.MAX_VALUE, -1, 0, 1, Integer.MIN_VALUE, Integer.MAX_VALUE, 1L << 32,
-            1L << 31, 0x7E7E7E7E7E7E7E7FL, 0x7F7E7E7E7E7E7E7EL, 0x2121212121212120L, 0x2021212121212121L, Long.MIN_VALUE + 'a',
+            1L << 31, 0x7E7E7E7E7E7E7E7FL, 0x7F7E7E7E7E7E7E7EL, 0x2121212121212120L, 0x2021212121212121L,
+            Long.MIN_VALUE + 'a',
             0x6161616100000000L, 0x6100000000000061L, 0x6161616161616100L, 0x0061616161610061L, 0xE161616161616161L};
         for (long characters : bad) {
             Due.is("put(" + characters + ")", x.put(characters), BAD_VALUE);
