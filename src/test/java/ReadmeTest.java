@@ -130,6 +130,7 @@ public final class ReadmeTest {
     }
 
     private static List<Method> methods() {
-        return Stream.of(ExamHalls.class.getDeclaredMethods()).filter(m -> Modifier.isPublic(m.getModifiers())).toList();
+        return Stream.of(ExamHalls.class.getDeclaredMethods())
+                .filter(method -> Modifier.isPublic(method.getModifiers())).toList();
     }
 }
